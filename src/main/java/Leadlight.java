@@ -526,8 +526,7 @@ public final class Leadlight {
 
         Piece(int colour) {
             this.colour = colour;
-            things[0] = CAME_ABOUT;
-            thingCount = 1;
+            note(CAME_ABOUT);
         }
 
         void note(int thing) {

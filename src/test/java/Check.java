@@ -10,13 +10,18 @@ final class Check {
         this.test = test;
     }
 
-    /** What a call answers, or the exact name of the exception that it throws. */
+    /** What a call answers, or the exact name of the exception that it throws, and whether the library throws it. */
     static String answer(Supplier<Object> call) {
         try {
             return String.valueOf(call.get());
         } catch (RuntimeException e) {
-            return "throws " + e.getClass().getName();
+            return "throws " + e.getClass().getName() + (isByOurselves(e) ? "" : " out of the library");
         }
+    }
+
+    private static boolean isByOurselves(RuntimeException e) {
+        StackTraceElement[] trace = e.getStackTrace();
+        return trace.length > 0 && trace[0].getClassName().matches("(Leadlight|Model)(\\$.*)?");
     }
 
     void same(String what, Object got, Object want) {

@@ -91,5 +91,27 @@ public final class LeadsTest {
         order("to the left of the one below", hook, 1, 0, 3, 2);
         hook.give(136, 0);
         order("under it as well", hook);
+        hook.give(136, 3);
+        order("given back", hook, 1, 0, 3, 2);
+        Leadlight corner = new Leadlight();
+        corner.divide(0, 0);
+        corner.divide(0, 16);
+        order("one cell in the upper left", corner, 1, 0, 2);
+        sixty();
+    }
+
+    /** Column by column from the left, each from below. */
+    private static void sixty() {
+        int[] due = new int[60];
+        int place = 0;
+        for (int first : new int[] {0, 16, 32}) {
+            for (int row = 15; row >= 0; row--) {
+                due[place++] = first + row;
+            }
+        }
+        for (int row = 11; row >= 0; row--) {
+            due[place++] = 48 + row;
+        }
+        order("sixty", Windows.sixty(), due);
     }
 }

@@ -12,7 +12,9 @@ public final class PiecesTest {
         divideUpToSixty();
         give();
         giveRefused();
+        giveAndConnected();
         join();
+        joinAtCorners();
         joinRefused();
         colour();
         finish();
@@ -123,6 +125,21 @@ public final class PiecesTest {
         CHECK.due("give: history(3, 1)", () -> x.history(3, 1), -1);
     }
 
+    /** What a cell leaves may be connected or not in ways that only a look at all sides finds. */
+    private static void giveAndConnected() {
+        Leadlight x = new Leadlight();
+        x.divide(0, 14);
+        Windows.give(x, 1, 224, 226, 239);
+        CHECK.due("joined from below: give(239, 0)", () -> x.give(239, 0), 1);
+        x.give(233, 1);
+        Windows.give(x, 0, 224, 226);
+        x.give(239, 1);
+        CHECK.due("joined to the left: give(239, 0)", () -> x.give(239, 0), 1);
+        x.give(233, 0);
+        x.give(239, 1);
+        CHECK.badState("the upper right torn off: give(254, 0)", () -> x.give(254, 0));
+    }
+
     private static void giveRefused() {
         Leadlight x = Windows.quarters();
         for (int cell : new int[] {-1, 256, Integer.MIN_VALUE, Integer.MAX_VALUE}) {
@@ -133,7 +150,10 @@ public final class PiecesTest {
         }
         CHECK.badState("its own: give(0, 0)", () -> x.give(0, 0));
         CHECK.badState("across a corner: give(136, 0)", () -> x.give(136, 0));
-        CHECK.badState("two away: give(144, 0)", () -> x.give(144, 0));
+        CHECK.badState("two below: give(144, 0)", () -> x.give(144, 0));
+        CHECK.badState("two above: give(96, 1)", () -> x.give(96, 1));
+        CHECK.badState("two to the right: give(9, 0)", () -> x.give(9, 0));
+        CHECK.badState("two to the left: give(6, 2)", () -> x.give(6, 2));
         // The right end of a row is no neighbour of the left end of the next.
         Leadlight ends = new Leadlight();
         ends.divide(0, 30);
@@ -143,6 +163,7 @@ public final class PiecesTest {
         strip.divide(0, 0);
         CHECK.badState("torn apart: give(5, 1)", () -> strip.give(5, 1));
         CHECK.due("at the end: give(0, 1)", () -> strip.give(0, 1), 0);
+        CHECK.due("at the end: pieceOf(0)", () -> strip.pieceOf(0), 1);
         Leadlight island = Windows.island();
         CHECK.badState("nothing left: give(229, 0)", () -> island.give(229, 0));
 
@@ -178,6 +199,21 @@ public final class PiecesTest {
         CHECK.due("broken one joined: join(2, 3)", () -> x.join(2, 3), 128);
         CHECK.due("which is broken no more: mend(0)", () -> x.mend(0), 0);
         CHECK.due("join: isShut()", x::isShut, true);
+    }
+
+    private static void joinAtCorners() {
+        for (int corner : new int[] {0, 15, 240, 255}) {
+            Leadlight x = new Leadlight();
+            int row = corner < 16 ? 0 : 14;
+            int column = corner % 16 == 0 ? 16 : 30;
+            x.divide(0, row);
+            x.divide(corner < 16 ? 0 : 1, column);
+            int single = x.pieceOf(corner);
+            int above = x.pieceOf(corner < 16 ? corner + 16 : corner - 16);
+            CHECK.due("one cell: piece(" + single + ", 0)", () -> x.piece(single, 0), 1);
+            CHECK.due("corner " + corner + ": join(" + single + ", " + above + ")", () -> x.join(single, above), 241);
+            CHECK.due("corner " + corner + ": pieceOf", () -> x.pieceOf(128), single);
+        }
     }
 
     private static void joinRefused() {
@@ -289,6 +325,12 @@ public final class PiecesTest {
         strip.divide(1, 29);
         CHECK.due("one row: piece(0, 4)", () -> strip.piece(0, 4), 2);
         CHECK.due("two columns: piece(2, 4)", () -> strip.piece(2, 4), 0);
+        strip.divide(0, 17);
+        CHECK.due("two cells above all: piece(0, 4)", () -> strip.piece(0, 4), 2);
+        strip.divide(1, 13);
+        strip.divide(4, 14);
+        strip.divide(5, 17);
+        CHECK.due("two cells below all: piece(5, 4)", () -> strip.piece(5, 4), 2);
         Leadlight island = Windows.island();
         CHECK.due("one cell: piece(1, 4)", () -> island.piece(1, 4), 2);
         CHECK.due("with a hole: piece(0, 4)", () -> island.piece(0, 4), 1);
@@ -327,5 +369,19 @@ public final class PiecesTest {
         Windows.give(neck, 1, 54, 55, 56, 57, 38, 39, 40, 41);
         CHECK.due("a neck: piece(0, 4)", () -> neck.piece(0, 4), 1);
         CHECK.due("a neck: bestLine(0)", () -> neck.bestLine(0), 21);
+        Leadlight notch = new Leadlight();
+        notch.divide(0, 3);
+        Windows.give(notch, 1, 54, 38);
+        CHECK.due("a notch of one column: bestLine(0)", () -> notch.bestLine(0), 21);
+        Leadlight blocks = new Leadlight();
+        blocks.divide(0, 3);
+        blocks.divide(0, 20);
+        CHECK.due("four rows, five columns: bestLine(0)", () -> blocks.bestLine(0), 17);
+        blocks.divide(1, 8);
+        blocks.divide(1, 19);
+        CHECK.due("five rows, four columns: bestLine(1)", () -> blocks.bestLine(1), 5);
+        blocks.divide(4, 22);
+        blocks.divide(5, 27);
+        CHECK.due("five rows, five columns: bestLine(5)", () -> blocks.bestLine(5), 5);
     }
 }

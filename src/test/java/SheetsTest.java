@@ -123,6 +123,9 @@ public final class SheetsTest {
         needs("two colours", x, 0, 1, 400 - 192);
         needs("two colours", x, 7, 1, 400 - 64);
         needs("two colours", x, 3, 0, 0);
+        CHECK.due("waste(7) after another's sheets", () -> x.waste(7), 400 - 64);
+        CHECK.due("sheets(3) after another's waste", () -> x.sheets(3), 0);
+        CHECK.due("laid(3) after another's sheets", () -> x.laid(3), 800);
         x.join(0, 1);
         needs("the only one gone", x, 7, 0, 0);
         needs("the only one gone", x, 0, 2, 800 - 256);

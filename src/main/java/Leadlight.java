@@ -931,11 +931,11 @@ public final class Leadlight {
         private final int[] heights = new int[MOST_PIECES];
         private final int[] widths = new int[MOST_PIECES];
         private final int[] spots = new int[MOST_PIECES];
-        private int queued = 0;
-        private int sheetsUsed = 0;
-        private int shelfBottom = 0;
-        private int shelfHeight = 0;
-        private int shelfEnd = 0;
+        private int queued;
+        private int sheetsUsed;
+        private int shelfBottom;
+        private int shelfHeight;
+        private int shelfEnd;
 
         void begin() {
             Arrays.fill(spots, NONE);

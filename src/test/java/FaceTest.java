@@ -72,9 +72,16 @@ public final class FaceTest {
             }
         }
         CHECK.same("the face", found, due());
-        for (Method each : Leadlight.class.getDeclaredMethods()) {
-            if (Modifier.isPrivate(each.getModifiers())) {
-                CHECK.same("private " + each.getName() + " bears a public name", names.contains(each.getName()), false);
+        notOf(names, Leadlight.class);
+        for (Class<?> each : Leadlight.class.getDeclaredClasses()) {
+            notOf(names, each);
+        }
+    }
+
+    private static void notOf(Set<String> names, Class<?> type) {
+        for (Method each : type.getDeclaredMethods()) {
+            if (!Modifier.isPublic(each.getModifiers())) {
+                CHECK.same(each + " bears a public name", names.contains(each.getName()), false);
             }
         }
     }

@@ -97,6 +97,11 @@ public final class LeadsTest {
         corner.divide(0, 0);
         corner.divide(0, 16);
         order("one cell in the upper left", corner, 1, 0, 2);
+        Leadlight border = new Leadlight();
+        border.divide(0, 16);
+        border.divide(0, 7);
+        border.join(2, 0);
+        order("one column on the left", border, 2, 1);
         sixty();
     }
 

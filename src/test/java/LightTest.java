@@ -103,6 +103,9 @@ public final class LightTest {
                 shows("far away", x, depth, column, 17, 0);
             }
         }
+        // Where products of so deep a place would come round to the lowest row, were they ints.
+        shows("come round", x, (1 << 30) + 1, (1 << 28) - 1, 10, 0);
+        shows("come round", x, (1 << 30) + 1, -(1 << 28), 14, 0);
         for (int column : far) {
             shows("far aside", x, 64, column, 7, 0);
             shows("far aside", x, 64, column, 17, 0);

@@ -107,6 +107,8 @@ public final class PaintTest {
         Leadlight x = new Leadlight();
         x.colour(0, 2);
         x.paint(0, 600);
+        x.paint(0, 700);
+        x.fire(0, 700);
         x.crack(0);
         CHECK.due("replace(0, 7)", () -> x.replace(0, 7), 2);
         CHECK.due("replaced: colour", () -> x.piece(0, 1), 7);
@@ -115,6 +117,8 @@ public final class PaintTest {
         CHECK.due("of the same colour: replace(0, 7)", () -> x.replace(0, 7), 7);
         CHECK.due("painted anew: paint(0, 510)", () -> x.paint(0, 510), 1);
         layers("painted anew", x, 1, 0, 0);
+        CHECK.due("painted anew: paint(0, 510)", () -> x.paint(0, 510), 2);
+        layers("painted anew", x, 2, 0, 0);
         x.finish();
         CHECK.badState("original and whole: replace(0, 1)", () -> x.replace(0, 1));
         x.crack(9);

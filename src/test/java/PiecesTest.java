@@ -166,6 +166,10 @@ public final class PiecesTest {
         CHECK.due("at the end: pieceOf(0)", () -> strip.pieceOf(0), 1);
         Leadlight island = Windows.island();
         CHECK.badState("nothing left: give(229, 0)", () -> island.give(229, 0));
+        Leadlight corner = new Leadlight();
+        corner.divide(0, 0);
+        corner.divide(0, 16);
+        CHECK.badState("nothing left: give(0, 1)", () -> corner.give(0, 1));
 
         Leadlight originals = new Leadlight();
         originals.divide(0, 7);
